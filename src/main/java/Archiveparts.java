@@ -721,18 +721,16 @@ public final class Archiveparts {
     /** Puts the parts of the walk into walkRow and returns how many there are. */
     private int walkAll() {
         noteTargets();
-        int come = 0;
-        int count = bringFrom(CONTAINER, 0, come);
+        int count = bringFrom(CONTAINER, 0);
         for (int i = 0; i < count && i < PART_LIMIT; i++) {
-            come = partsInWalk(count);
-            count = bringFrom(walkRow[i], count, come);
+            count = bringFrom(walkRow[i], count);
         }
         return count;
     }
 
-    private int bringFrom(int from, int walkedYet, int comeYet) {
+    private int bringFrom(int from, int walkedYet) {
         int count = walkedYet;
-        int come = comeYet;
+        int come = partsInWalk(count);
         for (int i = 0; i < relationsMade; i++) {
             Relation relation = relationAt(i);
             int led = targetRow[i];
@@ -1070,7 +1068,7 @@ public final class Archiveparts {
         }
     }
 
-    /** The kinds of endings; an ending without a kind is not kept. */
+    /** The kinds of the endings that were given one, NONE for one that was taken away again. */
     private static final class Endings {
         private final long[] codes = new long[ENDING_LIMIT];
         private final int[] kinds = new int[ENDING_LIMIT];
@@ -1092,33 +1090,18 @@ public final class Archiveparts {
 
         /** Returns the kind before. */
         int give(long code, int kind) {
-            int before = kindOf(code);
             int place = placeOf(code);
-            if (place == NONE && kind != NONE) {
-                keep(code, kind);
-            } else if (place != NONE && kind == NONE) {
-                forget(place);
-            } else if (place >= 0 && place < ENDING_LIMIT) {
+            if (place >= 0 && place < ENDING_LIMIT) {
+                int before = kinds[place];
                 kinds[place] = kind;
+                return before;
             }
-            return before;
-        }
-
-        private void keep(long code, int kind) {
             if (count >= 0 && count < ENDING_LIMIT) {
                 codes[count] = code;
                 kinds[count] = kind;
                 count++;
             }
-        }
-
-        private void forget(int place) {
-            int last = count - 1;
-            if (place >= 0 && place <= last && last < ENDING_LIMIT) {
-                codes[place] = codes[last];
-                kinds[place] = kinds[last];
-                count = last;
-            }
+            return NONE;
         }
     }
 }

@@ -17,7 +17,7 @@ import java.util.TreeSet;
 public final class ArchivepartsModelTest {
     private static final int RUNS = 4000;
     private static final int CALLS = 512;
-    private static final String[] FORMS = {"crowded", "wide", "sparse"};
+    private static final String[] FORMS = {"crowded", "wide", "sparse", "full"};
 
     private interface Call {
         Object run();
@@ -58,9 +58,27 @@ public final class ArchivepartsModelTest {
         form = number % FORMS.length;
         real = new Archiveparts();
         model = new Model();
-        below(2);
+        if (form == 3) {
+            fill();
+        }
         for (calls = 0; calls < CALLS && wrong < 5; ) {
             step();
+        }
+    }
+
+    /** Makes nearly all parts and relations with short names, to leave calls for what is done with them. */
+    private void fill() {
+        int parts = 24 + below(7);
+        for (int i = 0; i < parts; i++) {
+            typeText(i < 20 ? "" + (char) ('a' + i) : "z/" + (i - 20));
+            both("part(0)", () -> real.part(0), () -> model.part(0));
+        }
+        for (int i = 0; i < 50; i++) {
+            typeText("" + (char) ('a' + below(20)));
+            int from = below(31) - 1;
+            boolean isRelative = below(2) == 0;
+            both("relate(" + from + ", 0, " + isRelative + ", 0)",
+                () -> real.relate(from, 0, isRelative, 0), () -> model.relate(from, 0, isRelative, 0));
         }
     }
 

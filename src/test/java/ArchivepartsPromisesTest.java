@@ -56,6 +56,7 @@ public final class ArchivepartsPromisesTest {
         checksums();
         shares();
         soundness();
+        everythingFull();
         System.out.println(wrong == 0
             ? "promises: all " + checks + " answers are as due"
             : "promises: " + wrong + " of " + checks + " answers are not as due");
@@ -238,11 +239,12 @@ public final class ArchivepartsPromisesTest {
         int broken = top(b, "nobody");
         int outside = x.outer(a, 1, 5);
         int outsideB = x.outer(b, 1, 6);
+        x.outer(-1, 1, 7);
         due(INDEX, "drop -1", () -> x.drop(-1));
         due(INDEX, "drop 2", () -> x.drop(2));
         due(INDEX, "drop 30", () -> x.drop(30));
         due(INDEX, "drop the lowest", () -> x.drop(Integer.MIN_VALUE));
-        due(7, "nothing is gone", () -> x.relations('a'));
+        due(8, "nothing is gone", () -> x.relations('a'));
         due(2, "drop a", () -> x.drop(a));
         due(INDEX, "drop a again", () -> x.drop(a));
         for (int gone : new int[] {toB, itself, outside}) {
@@ -1240,5 +1242,48 @@ public final class ArchivepartsPromisesTest {
         due(true, "a damaged relation", () -> x.isSound());
         x.drop(b);
         due(true, "a dropped part", () -> x.isSound());
+    }
+
+    /** As many parts and relations as there can be, so that every row is used to its end. */
+    private static void everythingFull() {
+        fresh(20);
+        for (int i = 0; i < 30; i++) {
+            part("f/p" + i, i);
+        }
+        for (int i = 0; i < 60; i++) {
+            relative(i % 30, 0, "p" + (i + 1) % 30);
+        }
+        type("g/h/last");
+        due(4, "rename the last part", () -> x.rename(29));
+        due("2:f/p0", "the last relation", () -> text(59));
+        promise = 21;
+        type("k");
+        due(29, "rename the folder of all others", () -> x.renameFolder(0, 1));
+        due("2:k/p0", "the last relation", () -> text(59));
+        due("1:g/h/last", "the one ahead of it", () -> text(58));
+        promise = 22;
+        due(4, "exchange", () -> x.exchange(29, 0));
+        due("0:last", "the last relation", () -> text(59));
+        promise = 23;
+        type("m");
+        due(2, "damage a part that leads to itself alone", () -> x.damageName(29));
+        promise = 27;
+        due(0, "mend", () -> x.mend(29));
+        promise = 30;
+        due(2, "broken", () -> x.relations('b'));
+        promise = 31;
+        due(0, "walked", () -> x.walked());
+        promise = 34;
+        due(1, "circles", () -> x.circles());
+        promise = 36;
+        type("k");
+        due(29, "below", () -> x.below());
+        promise = 38;
+        due(2.0f / 60.0f, "broken share", () -> x.brokenShare());
+        promise = 40;
+        due(true, "sound", () -> x.isSound());
+        promise = 5;
+        due(0, "drop the last part", () -> x.drop(29));
+        due(58, "relations that stay", () -> x.relations('a'));
     }
 }
