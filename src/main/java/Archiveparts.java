@@ -88,7 +88,7 @@ public final class Archiveparts {
             }
             if (relation.from == part) {
                 relationRow[i] = null;
-            } else if (targetRow[i] == part) {
+            } else if (notedTarget(i) == part) {
                 broken++;
             }
         }
@@ -284,7 +284,7 @@ public final class Archiveparts {
         noteTargets();
         int count = 0;
         for (int i = 0; i < relationsMade; i++) {
-            int led = targetRow[i];
+            int led = notedTarget(i);
             if (led == part) {
                 writeAnew(i, other);
                 count++;
@@ -306,7 +306,7 @@ public final class Archiveparts {
         int changed = 0;
         for (int i = 0; i < relationsMade; i++) {
             Relation relation = relationAt(i);
-            if (relation != null && partLedTo(relation) != targetRow[i]) {
+            if (relation != null && partLedTo(relation) != notedTarget(i)) {
                 changed++;
             }
         }
@@ -657,6 +657,10 @@ public final class Archiveparts {
         }
     }
 
+    private int notedTarget(int number) {
+        return number >= 0 && number < RELATION_LIMIT ? targetRow[number] : NONE;
+    }
+
     private int countRelations(char which) {
         int count = 0;
         for (int i = 0; i < relationsMade; i++) {
@@ -688,7 +692,7 @@ public final class Archiveparts {
         int count = 0;
         for (int i = 0; i < relationsMade; i++) {
             Relation relation = relationAt(i);
-            int led = targetRow[i];
+            int led = notedTarget(i);
             if (relation == null || led == NONE) {
                 continue;
             }
@@ -733,7 +737,7 @@ public final class Archiveparts {
         int come = partsInWalk(count);
         for (int i = 0; i < relationsMade; i++) {
             Relation relation = relationAt(i);
-            int led = targetRow[i];
+            int led = notedTarget(i);
             if (relation == null || relation.from != from || led == NONE || isIn(come, led)) {
                 continue;
             }
@@ -762,7 +766,7 @@ public final class Archiveparts {
         }
         for (int i = 0; i < relationsMade; i++) {
             Relation relation = relationAt(i);
-            int led = targetRow[i];
+            int led = notedTarget(i);
             if (relation != null && led != NONE && partAt(relation.from) != null) {
                 reachRow[relation.from] |= 1 << led;
             }
