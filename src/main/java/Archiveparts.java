@@ -947,7 +947,7 @@ public final class Archiveparts {
                 return false;
             }
             for (int i = 0; i < count; i++) {
-                if (signs[place + i] != other.signs[i]) {
+                if (signAt(place + i) != other.signAt(i)) {
                     return false;
                 }
             }
