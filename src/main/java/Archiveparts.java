@@ -214,7 +214,7 @@ public final class Archiveparts {
             return chosen.up;
         }
         if (what == 'b') {
-            return isBroken(chosen) ? 1 : 0;
+            return letterOf(chosen) == 'b' ? 1 : 0;
         }
         if (what == 'o') {
             return chosen.isOuter ? 1 : 0;
@@ -328,7 +328,7 @@ public final class Archiveparts {
         needTypedName();
         chosen.path.copyOf(typed);
         typed.clear();
-        return isBroken(chosen);
+        return partLedTo(chosen) == NONE;
     }
 
     public boolean isHurt(int part) throws IndexOutOfBoundsException {
@@ -387,14 +387,7 @@ public final class Archiveparts {
     }
 
     public int orphans() {
-        int come = partsInWalk(walkAll());
-        int count = 0;
-        for (int i = 0; i < partsMade; i++) {
-            if (partAt(i) != null && !isIn(come, i)) {
-                count++;
-            }
-        }
-        return count;
+        return countOrphans(walkAll());
     }
 
     public int circles() {
@@ -462,7 +455,8 @@ public final class Archiveparts {
     }
 
     public boolean isSound() {
-        return areNamesApart() && walked() + orphans() == parts() && doRelationsLead();
+        int come = walkAll();
+        return areNamesApart() && come + countOrphans(come) == parts() && doRelationsLead();
     }
 
     // ---- what a call needs, or throws for ----
@@ -646,10 +640,6 @@ public final class Archiveparts {
         return NONE;
     }
 
-    private boolean isBroken(Relation relation) {
-        return !relation.isOuter && partLedTo(relation) == NONE;
-    }
-
     private void noteTargets() {
         for (int i = 0; i < RELATION_LIMIT; i++) {
             Relation relation = relationAt(i);
@@ -665,24 +655,19 @@ public final class Archiveparts {
         int count = 0;
         for (int i = 0; i < relationsMade; i++) {
             Relation relation = relationAt(i);
-            if (relation != null && isOfLetter(relation, which)) {
+            if (relation != null && (which == 'a' || letterOf(relation) == which)) {
                 count++;
             }
         }
         return count;
     }
 
-    private boolean isOfLetter(Relation relation, char which) {
-        if (which == 'o') {
-            return relation.isOuter;
+    /** The letter under which relations counts a relation: outer, broken, or else inner. */
+    private char letterOf(Relation relation) {
+        if (relation.isOuter) {
+            return 'o';
         }
-        if (which == 'b') {
-            return isBroken(relation);
-        }
-        if (which == 'i') {
-            return !relation.isOuter && !isBroken(relation);
-        }
-        return true;
+        return partLedTo(relation) == NONE ? 'b' : 'i';
     }
 
     // ---- writing relations anew ----
@@ -756,6 +741,18 @@ public final class Archiveparts {
             come |= 1 << walkRow[i];
         }
         return come;
+    }
+
+    /** Counts the parts that are not among so many first ones in walkRow. */
+    private int countOrphans(int walkedCount) {
+        int come = partsInWalk(walkedCount);
+        int count = 0;
+        for (int i = 0; i < partsMade; i++) {
+            if (partAt(i) != null && !isIn(come, i)) {
+                count++;
+            }
+        }
+        return count;
     }
 
     /** Puts into reachRow, for each part, the set of parts to which one relation or more lead from it. */
